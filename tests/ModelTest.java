@@ -1,0 +1,297 @@
+import java.lang.reflect.InvocationTargetException;
+import java.lang.reflect.Method;
+import java.lang.reflect.Modifier;
+import java.util.ArrayList;
+import java.util.Arrays;
+import java.util.Comparator;
+import java.util.List;
+import java.util.Random;
+
+/** Runs of drawn calls, each asked of the program and of the Model; the seeds are fixed. */
+public final class ModelTest {
+    private static final List<Method> FACE = new ArrayList<>();
+    private static final long[] EDGES = {Integer.MIN_VALUE, Integer.MAX_VALUE, -1, 0, 2160, 400, 1000000, 1000001};
+
+    private final Random random;
+    private final PoolHouse pool;
+    private final Model model;
+    private final int run;
+    private final int theme;
+    private final List<String> log = new ArrayList<>();
+    private boolean failed;
+
+    private ModelTest(int run) {
+        this.run = run;
+        random = new Random(run);
+        theme = run % 6;
+        int disks = random.nextInt(10);
+        pool = new PoolHouse(disks);
+        model = new Model(disks);
+    }
+
+    public static void main(String[] args) {
+        int runs = args.length > 0 ? Integer.parseInt(args[0]) : 400;
+        for (Method m : PoolHouse.class.getDeclaredMethods()) {
+            if (Modifier.isPublic(m.getModifiers())) {
+                FACE.add(m);
+            }
+        }
+        FACE.sort(Comparator.comparing(Method::getName));
+        int wrong = 0;
+        for (int i = 0; i < runs && wrong < 5; i++) {
+            ModelTest test = new ModelTest(i);
+            test.draw();
+            wrong += test.failed ? 1 : 0;
+        }
+        System.out.println("ModelTest: " + wrong + " of " + runs + " runs differ");
+        System.exit(wrong == 0 ? 0 : 1);
+    }
+
+    private void draw() {
+        for (int i = 0; i < 512 && !failed; i++) {
+            if (theme == 4 && i % 8 == 0) {
+                script();
+            }
+            Method m = drawn();
+            ask(m.getName(), numbers(m));
+        }
+        look();
+    }
+
+    private Method drawn() {
+        for (;;) {
+            Method m = FACE.get(random.nextInt(FACE.size()));
+            int weight = weight(m.getName());
+            if (random.nextInt(20) < weight) {
+                return m;
+            }
+        }
+    }
+
+    /** How often a call is drawn, of 20: what fills the pool more often than what empties it. */
+    private int weight(String name) {
+        switch (name) {
+            case "make": case "write":
+                return 20;
+            case "link": case "rename": case "unlink": case "open": case "about":
+                return 10;
+            case "lock":
+                return theme == 3 ? 20 : 6;
+            case "snapshot": case "clone": case "send": case "receive": case "back":
+                return theme == 2 ? 12 : 3;
+            case "step": case "makeLink": case "walk":
+                return theme == 1 ? 16 : 5;
+            case "as":
+                return theme == 3 || theme == 1 ? 4 : 1;
+            case "crash": case "destroy": case "commit": case "sync": case "scrub":
+                return theme == 2 || theme == 5 ? 1 : 2;
+            case "lose":
+                return 1;
+            case "feed": case "end": case "run": case "out": case "line":
+                return 1;
+            default:
+                return 4;
+        }
+    }
+
+    private Object[] numbers(Method m) {
+        Class<?>[] wanted = m.getParameterTypes();
+        String[] kinds = kinds(m.getName());
+        Object[] given = new Object[wanted.length];
+        for (int i = 0; i < wanted.length; i++) {
+            long v = number(kinds[i]);
+            given[i] = wanted[i] == boolean.class ? (Object) (v % 2 != 0)
+                : wanted[i] == int.class ? (Object) (int) v : (Object) v;
+        }
+        return given;
+    }
+
+    private static String[] kinds(String name) {
+        switch (name) {
+            case "make": return "t n name two".split(" ");
+            case "step": return "step".split(" ");
+            case "makeLink": return "t n name b".split(" ");
+            case "walk": return "t n b".split(" ");
+            case "linked": return "t n small".split(" ");
+            case "find": case "unlink": return "t n name".split(" ");
+            case "write": return "t n at v eight".split(" ");
+            case "read": return "t n at".split(" ");
+            case "cut": return "t n at".split(" ");
+            case "link": return "t n n name".split(" ");
+            case "rename": return "t n name n name".split(" ");
+            case "about": return "t n small".split(" ");
+            case "entry": case "key": return "t n small".split(" ");
+            case "own": return "t n user".split(" ");
+            case "rights": return "t n rights".split(" ");
+            case "attribute": return "t n key v b".split(" ");
+            case "attributeOf": return "t n key".split(" ");
+            case "as": return "user".split(" ");
+            case "usage": return "t user".split(" ");
+            case "limit": return "d user blocks".split(" ");
+            case "lock": return "h at at three".split(" ");
+            case "locked": return "h at".split(" ");
+            case "open": return "t n".split(" ");
+            case "close": return "h".split(" ");
+            case "handle": return "h two".split(" ");
+            case "snapshot": case "receive": return "d".split(" ");
+            case "clone": return "s".split(" ");
+            case "back": return "d s".split(" ");
+            case "destroy": return "t".split(" ");
+            case "hold": return "s b".split(" ");
+            case "quota": return "d blocks".split(" ");
+            case "held": return "t0 b".split(" ");
+            case "told": return "t three".split(" ");
+            case "differs": return "t t three".split(" ");
+            case "send": return "s s".split(" ");
+            case "crash": return "five".split(" ");
+            case "spoil": return "disk v blocks".split(" ");
+            case "lose": case "disk": return "disk".split(" ");
+            case "bring": return "disk b".split(" ");
+            case "scrub": return "b".split(" ");
+            case "feed": return "v v v v v".split(" ");
+            case "end": case "out": return "at".split(" ");
+            default: return new String[0];
+        }
+    }
+
+    private long number(String kind) {
+        if (random.nextInt(60) == 0) {
+            return EDGES[random.nextInt(EDGES.length)];
+        }
+        switch (kind) {
+            case "t": return random.nextInt(4) > 0 ? dataset() : -snapshot();
+            case "t0": return random.nextInt(4) - 1;
+            case "d": return dataset();
+            case "s": return snapshot();
+            case "n": return 1 + random.nextInt(random.nextInt(3) == 0 ? 36 : 5);
+            case "name": return 1 + random.nextInt(random.nextBoolean() ? 6 : 40);
+            case "step": return random.nextInt(20) == 0 ? -1 : random.nextInt(7);
+            case "two": return 1 + random.nextInt(2);
+            case "small": return random.nextInt(9) - 1;
+            case "at": return random.nextInt(random.nextBoolean() ? 200 : 2170);
+            case "v": return random.nextInt(4) == 0 ? random.nextInt(3) : random.nextLong();
+            case "eight": return 1 + random.nextInt(8);
+            case "user": return random.nextInt(3) > 0 ? 0 : random.nextInt(4);
+            case "rights": return random.nextInt(3) > 0 ? 63 : random.nextInt(65) - 1;
+            case "key": return 1 + random.nextInt(8);
+            case "blocks": return random.nextBoolean() ? 400 : random.nextInt(60);
+            case "h": return 1 + random.nextInt(4);
+            case "three": return random.nextInt(3);
+            case "five": return random.nextInt(5);
+            case "disk": return 1 + random.nextInt(2);
+            default: return random.nextInt(2);
+        }
+    }
+
+    private int dataset() {
+        List<Integer> all = new ArrayList<>(model.now.datasets.keySet());
+        return random.nextInt(15) == 0 ? random.nextInt(8) : all.get(random.nextInt(all.size()));
+    }
+
+    private int snapshot() {
+        List<Integer> all = new ArrayList<>(model.now.snapshots.keySet());
+        return all.isEmpty() || random.nextInt(15) == 0 ? random.nextInt(8) : all.get(random.nextInt(all.size()));
+    }
+
+    private void script() {
+        StringBuilder text = new StringBuilder();
+        int lines = 1 + random.nextInt(12);
+        for (int l = 0; l < lines; l++) {
+            Method m = drawn();
+            text.append(random.nextInt(30) == 0 ? " " : "").append(m.getName());
+            for (Object o : numbers(m)) {
+                text.append(random.nextInt(20) == 0 ? "  " : " ").append(word(o, l));
+            }
+            text.append(random.nextInt(60) == 0 ? " 5" : "").append(random.nextInt(20) == 0 ? " \n\n" : "\n");
+        }
+        int[] w = new int[5];
+        byte[] bytes = new byte[(text.length() + 19) / 20 * 20];
+        for (int i = 0; i < text.length(); i++) {
+            bytes[i] = (byte) text.charAt(i);
+        }
+        int before = model.tape.length();
+        for (int at = 0; at < bytes.length; at += 20) {
+            for (int i = 0; i < 5; i++) {
+                w[i] = (bytes[at + 4 * i] & 255) << 24 | (bytes[at + 4 * i + 1] & 255) << 16
+                    | (bytes[at + 4 * i + 2] & 255) << 8 | bytes[at + 4 * i + 3] & 255;
+            }
+            ask("feed", w[0], w[1], w[2], w[3], w[4]);
+        }
+        ask("end", before + text.length());
+        log.add(text.toString());
+        ask("run");
+        ask("line");
+        for (int i = 0; i <= model.outText.length(); i++) {
+            ask("out", i);
+        }
+    }
+
+    private String word(Object o, int lines) {
+        switch (random.nextInt(24)) {
+            case 0: return "@" + random.nextInt(lines + 1);
+            case 1: return "/" + (1 + random.nextInt(6));
+            case 2: return "/" + (1 + random.nextInt(6)) + "/" + (1 + random.nextInt(6));
+            case 3: return "/";
+            case 4: return random.nextInt(4) > 0 ? "00" + random.nextInt(4)
+                : new String[] {"-", "@", "//", "/1/", "@-1", "1x", "1234567890123456789", "/12345678", "-0", "+1"}
+                    [random.nextInt(10)];
+            default: return o instanceof Boolean ? (Boolean) o ? "1" : "0" : o.toString();
+        }
+    }
+
+    private void ask(String name, Object... given) {
+        long due = call(model, Model.class, name, given);
+        long got = call(pool, PoolHouse.class, name, given);
+        log.add(name + Arrays.toString(given) + " = " + due);
+        if (due != got) {
+            failed = true;
+            System.out.println("run " + run + ": " + name + Arrays.toString(given) + " answered " + got
+                + ", due is " + due);
+            for (String s : log.subList(Math.max(0, log.size() - 30), log.size())) {
+                System.out.println("    " + s);
+            }
+        }
+    }
+
+    private static long call(Object on, Class<?> of, String name, Object[] given) {
+        for (Method m : of.getDeclaredMethods()) {
+            if (m.getName().equals(name) && m.getParameterCount() == given.length) {
+                try {
+                    return ((Number) m.invoke(on, given)).longValue();
+                } catch (InvocationTargetException | IllegalAccessException e) {
+                    throw new IllegalStateException(name + Arrays.toString(given), e);
+                }
+            }
+        }
+        throw new IllegalStateException(name);
+    }
+
+    /** Asks for all that there is at the end of a run. */
+    private void look() {
+        ask("oddities");
+        ask("as", 0);
+        List<Integer> trees = new ArrayList<>(model.now.datasets.keySet());
+        for (int s : model.now.snapshots.keySet()) {
+            trees.add(-s);
+        }
+        for (int t : trees) {
+            for (int i = 0; i < 4; i++) {
+                ask("told", t, i);
+            }
+            ask("held", t, true);
+            ask("held", t, false);
+            for (int n = 1; n <= 36 && !failed; n++) {
+                for (int i = 0; i < 8; i++) {
+                    ask("about", t, n, i);
+                }
+                for (int k = 0; k < model.about(t, n, 1) && model.about(t, n, 0) == 2; k++) {
+                    ask("entry", t, n, k);
+                    ask("find", t, n, model.entry(t, n, k));
+                }
+                for (int at = 0; model.about(t, n, 0) == 1 && at <= model.about(t, n, 1) && !failed; at += 7) {
+                    ask("read", t, n, at);
+                }
+            }
+        }
+    }
+}
