@@ -17,6 +17,8 @@ public final class ModelTest {
     private final Model model;
     private final int run;
     private final int theme;
+    private int drawnFor = 1;
+    private int drawnNode = 1;
     private final List<String> log = new ArrayList<>();
     private boolean failed;
 
@@ -48,14 +50,67 @@ public final class ModelTest {
     }
 
     private void draw() {
+        if (theme == 5) {
+            fill();
+        }
         for (int i = 0; i < 512 && !failed; i++) {
             if (theme == 4 && i % 8 == 0) {
                 script();
+            }
+            if (theme >= 4 && i % 40 == 39) {
+                ferry();
             }
             Method m = drawn();
             ask(m.getName(), numbers(m));
         }
         look();
+    }
+
+    /** A DATASET that has a SNAPSHOT's TREE, or nearly, receives what leads from there to another one. */
+    private void ferry() {
+        ask("as", 0);
+        List<Integer> all = new ArrayList<>(model.now.snapshots.keySet());
+        if (all.size() < 2) {
+            return;
+        }
+        int from = all.get(random.nextInt(all.size()));
+        int to = all.get(random.nextInt(all.size()));
+        ask("send", from, to);
+        int clone = model.datasetsMade + 1;
+        if (random.nextInt(3) > 0) {
+            ask("destroy", -(all.get(random.nextInt(all.size()))));
+        }
+        ask("clone", from);
+        if (random.nextInt(5) == 0) {
+            ask("quota", clone, 150 + random.nextInt(50));
+        }
+        if (random.nextInt(3) == 0) {
+            ask("open", clone, 2);
+            ask("unlink", clone, 1, 10);
+        }
+        ask("receive", clone);
+        ask("receive", random.nextInt(3) + 1);
+        ask("held", clone, true);
+        ask("held", 0, false);
+        ask("differs", clone, -to, 0);
+        if (random.nextInt(3) > 0) {
+            ask("destroy", clone);
+        }
+    }
+
+    /** So many BLOCKS, NODES, ENTRIES that what has room is soon decided by one more or less. */
+    private void fill() {
+        int files = 11 + random.nextInt(3);
+        for (int i = 0; i < files; i++) {
+            ask("make", 1, 1, 10 + i, 1);
+        }
+        for (int i = 0; i < 190 + random.nextInt(12); i++) {
+            if (i == 100) {
+                ask("snapshot", 1);
+            }
+            ask("write", 1, 2 + i % files, 59 + 120 * (i / files), random.nextLong(), 2 + random.nextInt(7));
+        }
+        ask("snapshot", 1);
     }
 
     private Method drawn() {
@@ -72,22 +127,23 @@ public final class ModelTest {
     private int weight(String name) {
         switch (name) {
             case "make": case "write":
-                return 20;
-            case "link": case "rename": case "unlink": case "open": case "about":
+                return theme == 5 && name.equals("make") ? 4 : 20;
+            case "rename": case "unlink":
+                return theme == 0 ? 2 : 10;
+            case "link": case "open": case "about":
                 return 10;
             case "lock":
                 return theme == 3 ? 20 : 6;
             case "snapshot": case "clone": case "send": case "receive": case "back":
-                return theme == 2 ? 12 : 3;
+                return theme == 2 ? 12 : theme == 1 ? 1 : 3;
             case "step": case "makeLink": case "walk":
-                return theme == 1 ? 16 : 5;
+                return theme == 1 ? 16 : 4;
             case "as":
-                return theme == 3 || theme == 1 ? 4 : 1;
-            case "crash": case "destroy": case "commit": case "sync": case "scrub":
-                return theme == 2 || theme == 5 ? 1 : 2;
-            case "lose":
-                return 1;
-            case "feed": case "end": case "run": case "out": case "line":
+                return theme == 3 || theme == 1 ? 5 : 1;
+            case "cut":
+                return theme == 5 ? 10 : 5;
+            case "crash": case "destroy": case "close": case "commit": case "sync": case "scrub":
+            case "lose": case "feed": case "end": case "run": case "out": case "line":
                 return 1;
             default:
                 return 4;
@@ -108,29 +164,31 @@ public final class ModelTest {
 
     private static String[] kinds(String name) {
         switch (name) {
-            case "make": return "t n name two".split(" ");
+            case "make": return "T DIR name two".split(" ");
             case "step": return "step".split(" ");
-            case "makeLink": return "t n name b".split(" ");
-            case "walk": return "t n b".split(" ");
-            case "linked": return "t n small".split(" ");
-            case "find": case "unlink": return "t n name".split(" ");
-            case "write": return "t n at v eight".split(" ");
-            case "read": return "t n at".split(" ");
-            case "cut": return "t n at".split(" ");
-            case "link": return "t n n name".split(" ");
-            case "rename": return "t n name n name".split(" ");
+            case "makeLink": return "T DIR name b".split(" ");
+            case "walk": return "t DIR b".split(" ");
+            case "linked": return "t LINK small".split(" ");
+            case "find": return "t DIR name".split(" ");
+            case "unlink": return "T DIR name".split(" ");
+            case "write": return "T FILE at v eight".split(" ");
+            case "read": return "t FILE at".split(" ");
+            case "cut": return "T FILE at".split(" ");
+            case "link": return "T FILE DIR name".split(" ");
+            case "rename": return "T DIR name DIR name".split(" ");
             case "about": return "t n small".split(" ");
-            case "entry": case "key": return "t n small".split(" ");
-            case "own": return "t n user".split(" ");
-            case "rights": return "t n rights".split(" ");
-            case "attribute": return "t n key v b".split(" ");
+            case "entry": return "t DIR small".split(" ");
+            case "key": return "t n small".split(" ");
+            case "own": return "T n user".split(" ");
+            case "rights": return "T n rights".split(" ");
+            case "attribute": return "T n key v b".split(" ");
             case "attributeOf": return "t n key".split(" ");
             case "as": return "user".split(" ");
             case "usage": return "t user".split(" ");
             case "limit": return "d user blocks".split(" ");
             case "lock": return "h at at three".split(" ");
             case "locked": return "h at".split(" ");
-            case "open": return "t n".split(" ");
+            case "open": return "T FILE".split(" ");
             case "close": return "h".split(" ");
             case "handle": return "h two".split(" ");
             case "snapshot": case "receive": return "d".split(" ");
@@ -155,31 +213,71 @@ public final class ModelTest {
     }
 
     private long number(String kind) {
-        if (random.nextInt(60) == 0) {
+        if (random.nextInt(80) == 0) {
             return EDGES[random.nextInt(EDGES.length)];
         }
         switch (kind) {
-            case "t": return random.nextInt(4) > 0 ? dataset() : -snapshot();
+            case "t": return drawnFor = random.nextInt(3) > 0 ? dataset() : -snapshot();
+            case "T": return drawnFor = random.nextInt(12) > 0 ? dataset() : -snapshot();
             case "t0": return random.nextInt(4) - 1;
             case "d": return dataset();
             case "s": return snapshot();
-            case "n": return 1 + random.nextInt(random.nextInt(3) == 0 ? 36 : 5);
-            case "name": return 1 + random.nextInt(random.nextBoolean() ? 6 : 40);
-            case "step": return random.nextInt(20) == 0 ? -1 : random.nextInt(7);
+            case "n": return node(0);
+            case "FILE": return node(1);
+            case "DIR": return node(2);
+            case "LINK": return node(3);
+            case "name": return name();
+            case "step": return random.nextInt(20) == 0 ? -1 : random.nextInt(4) == 0 ? 0 : name();
             case "two": return 1 + random.nextInt(2);
             case "small": return random.nextInt(9) - 1;
-            case "at": return random.nextInt(random.nextBoolean() ? 200 : 2170);
-            case "v": return random.nextInt(4) == 0 ? random.nextInt(3) : random.nextLong();
+            case "at": return at();
+            case "v": return random.nextInt(3) == 0 ? random.nextInt(2) : random.nextLong();
             case "eight": return 1 + random.nextInt(8);
             case "user": return random.nextInt(3) > 0 ? 0 : random.nextInt(4);
             case "rights": return random.nextInt(3) > 0 ? 63 : random.nextInt(65) - 1;
-            case "key": return 1 + random.nextInt(8);
-            case "blocks": return random.nextBoolean() ? 400 : random.nextInt(60);
-            case "h": return 1 + random.nextInt(4);
+            case "key": return 1 + random.nextInt(7);
+            case "blocks": return random.nextInt(3) > 0 ? 400 : random.nextInt(60);
+            case "h": return 1 + random.nextInt(5);
             case "three": return random.nextInt(3);
             case "five": return random.nextInt(5);
             case "disk": return 1 + random.nextInt(2);
             default: return random.nextInt(2);
+        }
+    }
+
+    /** A NODE's number, mostly one of the wanted kind that the TREE drawn last has. */
+    private int node(int kind) {
+        Model.T tree = model.now.tree(drawnFor);
+        List<Integer> all = new ArrayList<>();
+        for (int n = 1; tree != null && n <= 36; n++) {
+            Model.N node = tree.nodes.get(n);
+            if (node != null && (kind == 0 || node.kind == kind)) {
+                all.add(n);
+            }
+        }
+        if (all.isEmpty() || random.nextInt(12) == 0) {
+            return drawnNode = 1 + random.nextInt(8);
+        }
+        return drawnNode = all.get(random.nextBoolean() ? Math.min(all.size() - 1, random.nextInt(3))
+            : random.nextInt(all.size()));
+    }
+
+    /** A NAME, often one that the DIRECTORY drawn last has. */
+    private int name() {
+        Model.T tree = model.now.tree(drawnFor);
+        Model.N node = tree == null ? null : tree.nodes.get(drawnNode);
+        if (node == null || node.entries.isEmpty() || random.nextBoolean()) {
+            return 1 + random.nextInt(theme == 0 ? 300 : random.nextBoolean() ? 6 : 40);
+        }
+        return new ArrayList<>(node.entries.keySet()).get(random.nextInt(node.entries.size()));
+    }
+
+    private int at() {
+        switch (random.nextInt(4)) {
+            case 0: return random.nextInt(200);
+            case 1: return random.nextInt(2170);
+            case 2: return 60 * random.nextInt(37);
+            default: return 59 + 60 * random.nextInt(36);
         }
     }
 
@@ -227,12 +325,13 @@ public final class ModelTest {
     }
 
     private String word(Object o, int lines) {
-        switch (random.nextInt(24)) {
+        switch (random.nextInt(40)) {
             case 0: return "@" + random.nextInt(lines + 1);
-            case 1: return "/" + (1 + random.nextInt(6));
-            case 2: return "/" + (1 + random.nextInt(6)) + "/" + (1 + random.nextInt(6));
-            case 3: return "/";
-            case 4: return random.nextInt(4) > 0 ? "00" + random.nextInt(4)
+            case 1: return "@0";
+            case 2: return "/" + name();
+            case 3: return "/" + name() + "/" + name();
+            case 4: return "/";
+            case 5: return random.nextInt(4) > 0 ? "00" + random.nextInt(4)
                 : new String[] {"-", "@", "//", "/1/", "@-1", "1x", "1234567890123456789", "/12345678", "-0", "+1"}
                     [random.nextInt(10)];
             default: return o instanceof Boolean ? (Boolean) o ? "1" : "0" : o.toString();

@@ -90,6 +90,9 @@ public final class PoolHouse {
             return OUT_OF_RANGE;
         }
         Dataset dataset = datasetOf(t);
+        if (dataset == null) {
+            return WRONG_STATE;
+        }
         int made = added(dataset, dir, name, kind);
         if (made > 0) {
             act(dataset);
@@ -117,9 +120,10 @@ public final class PoolHouse {
             return OUT_OF_RANGE;
         }
         Dataset dataset = datasetOf(t);
-        int made = added(dataset, dir, name, LINK);
-        Node link = made > 0 ? nodeOf(treeOf(t), made) : null;
-        if (link != null) {
+        int made = dataset == null ? WRONG_STATE : added(dataset, dir, name, LINK);
+        Node link = dataset == null ? null : dataset.tree.nodeAt(made);
+        if (dataset != null && link != null) {
+            // The PATH comes before the ACT counts, as that may put down the LINK.
             link.leadTo(path, fromRoot);
             act(dataset);
         }
@@ -1050,7 +1054,7 @@ public final class PoolHouse {
 
     /** A new NODE with its ENTRY; what make() and makeLink() have in common behind their ranges. */
     private int added(Dataset dataset, int dir, int name, int kind) {
-        Node parent = dataset == null ? null : dataset.tree.nodeAt(dir);
+        Node parent = dataset.tree.nodeAt(dir);
         if (parent == null || parent.kind != DIRECTORY) {
             return WRONG_STATE;
         }
@@ -1077,7 +1081,7 @@ public final class PoolHouse {
         int here = from;
         int followed = 0;
         for (int i = 0; i < MOST_WALKED && path.left > 0; i++) {
-            Node node = tree.nodeAt(here);
+            Node node = nodeOf(tree, here);
             if (node == null || node.kind != DIRECTORY) {
                 return WRONG_STATE;
             }
@@ -1086,7 +1090,7 @@ public final class PoolHouse {
             }
             int step = path.next();
             int found = step == 0 ? (here == ROOT ? ROOT : node.above) : node.meaning(step);
-            Node next = tree.nodeAt(found);
+            Node next = nodeOf(tree, found);
             if (next == null) {
                 return NO_SUCH;
             }
