@@ -52,6 +52,8 @@ public final class PromiseTest {
         wrongWords();
         ways();
         oddities();
+        lastNode();
+        deepest();
         System.out.println("PromiseTest: " + asked + " answers, " + wrong + " not as due");
         System.exit(wrong == 0 ? 0 : 1);
     }
@@ -1702,6 +1704,77 @@ public final class PromiseTest {
         script(x, "about 1 /77/x 0", -10, 2, "");
         script(x, "as 0\nunlink 1 / 9\nmakeLink 1 /5 6 1\nmake 1 /5 6 1\nabout 1 /5/6 0", 5, -2,
             "4\n5\n-2\n4\n1\n");
+    }
+
+    /** The NODE with the greatest number is as all others. */
+    private static void lastNode() {
+        PoolHouse x = pool(2);
+        x.make(1, 1, 1, 2);
+        for (int i = 0; i < 34; i++) {
+            due("make", x.make(1, i < 20 ? 1 : 2, 2 + i, 1), 3 + i);
+        }
+        due("full", x.make(1, 1, 99, 1), -4);
+        due("told", x.told(1, 3), 36);
+        x.snapshot(1);
+        due("write", x.write(1, 36, 59, 0x0102, 2), 61);
+        due("held", x.held(1, false), 2);
+        due("alone", x.held(1, true), 2);
+        due("usage", x.usage(1, 0), 2);
+        due("quota", x.quota(1, 1), -3);
+        x.snapshot(1);
+        x.clone(1);
+        x.send(1, 2);
+        due("two new", x.receive(2), 2);
+        due("read", x.read(2, 36, 60), 2);
+        due("same", x.differs(2, -2, 0), -2);
+        due("another one now", x.receive(2), -3);
+        x.back(1, 2);
+        x.cut(1, 36, 0);
+        due("crash", x.crash(0), 1);
+        due("kept", x.about(1, 36, 3), 2);
+        x.open(1, 36);
+        x.unlink(1, 2, 35);
+        due("open", x.about(1, 36, 2), 0);
+        due("two", x.held(-2, true), 0);
+        due("back", x.back(1, 2), 1);
+        x.destroy(-2);
+        x.open(1, 36);
+        x.unlink(1, 2, 35);
+        x.commit();
+        due("gone by a crash", x.crash(0), 0);
+        due("gone", x.about(1, 36, 2), -1);
+        due("the clone has its own", x.held(0, false), 2);
+        due("the clone's", x.destroy(2), 2);
+        x.snapshot(1);
+        x.clone(3);
+        due("no room for what is there", x.quota(3, 0), 400);
+        x.make(1, 2, 35, 1);
+        x.write(1, 36, 59, 0x0102, 2);
+        x.snapshot(1);
+        x.send(3, 4);
+        due("quota", x.receive(3), -4);
+        x.quota(3, 2);
+        due("room", x.receive(3), 2);
+        due("oddities", x.oddities(), 0);
+    }
+
+    private static void deepest() {
+        PoolHouse x = pool(13);
+        for (int i = 1; i < 35; i++) {
+            due("make", x.make(1, i, 1, 2), i + 1);
+        }
+        due("file", x.make(1, 1, 2, 1), 36);
+        due("below itself", x.rename(1, 1, 1, 35, 1), -3);
+        due("in itself", x.rename(1, 34, 1, 35, 1), -3);
+        due("file", x.rename(1, 1, 2, 35, 2), 36);
+        due("up", x.rename(1, 34, 1, 1, 3), 35);
+        due("above", x.about(1, 35, 4), 1);
+        due("into it", x.rename(1, 1, 1, 35, 1), 2);
+        StringBuilder way = new StringBuilder("/3/1");
+        for (int i = 2; i < 34; i++) {
+            way.append("/1");
+        }
+        script(x, "about 1 " + way + " 4\nabout 1 " + way + "/1 4\nabout 1 /3/2 0", 3, -2, "33\n-1\n1\n");
     }
 
     private static void oddities() {
