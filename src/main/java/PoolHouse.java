@@ -2182,7 +2182,7 @@ public final class PoolHouse {
 
         /** Gives the number that was read to the call; false when it is none of those that are wanted. */
         boolean give(int i, char wanted) {
-            boolean isInt = number >= Integer.MIN_VALUE && number <= Integer.MAX_VALUE;
+            boolean isInt = number == (int) number;
             boolean isTruth = number == 0 || number == 1;
             if (i < 0 || i >= MOST_GIVEN || wanted == 'i' && !isInt || wanted == 't' && !isTruth) {
                 return false;
