@@ -23,6 +23,7 @@ public final class LanguageTest {
     private static final String[] BARRED = {"throw", "try", "catch", "finally", "synchronized", "assert", "import",
         "package", "instanceof", "goto", "native", "volatile", "transient", "strictfp", "var", "System.out",
         "->", "::", "hashCode", "toString", "?>"};
+    private static final Set<String> LIBRARY = Set.of("Math.min", "Math.max", "System.arraycopy");
     private static int wrong;
 
     public static void main(String[] args) throws IOException {
@@ -55,6 +56,12 @@ public final class LanguageTest {
         }
         holds(!code.contains("\"\" +") && !code.contains("+ \"\""), "no texts joined by +");
         holds(code.chars().allMatch(c -> c < 128), "signs 1 to 127");
+        java.util.regex.Matcher library = java.util.regex.Pattern.compile(
+            "\\b(Integer|Long|Short|Byte|Character|Boolean|Double|Float|Math|System|Arrays|List|String|Object)\\.\\w+")
+            .matcher(code);
+        while (library.find()) {
+            holds(LIBRARY.contains(library.group()), "no " + library.group());
+        }
     }
 
     /** No method has more than some sixty lines. */

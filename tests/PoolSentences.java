@@ -1145,15 +1145,14 @@ final class PoolSentences extends Sentences {
     }
 
     private static void receiveRoom() {
-        holds(TERMS, "What would lead to more (looked at when all of the call would be done) has no room", x -> {
+        String words = "What would lead to more (looked at when all of the call would be done) has no room";
+        holds(TERMS, words, x -> {
             full(x);
             x.destroy(4);
             x.write(1, 2, 59, 9, 2);
             x.snapshot(1);
             x.send(2, 3);
-            for (int i = 0; i < 49; i++) {
-                x.write(1, 2 + i / 18, i % 18 * 120 + 59, 8, 2);
-            }
+            writeTwice(x, 1, 0, 49);
             due("400", x.held(0, false), 400);
             due("two go, two come", x.receive(2), 2);
             due("400", x.held(0, false), 400);
@@ -1161,7 +1160,6 @@ final class PoolSentences extends Sentences {
             due("all go", x.receive(3), 0);
             due("300", x.held(0, false), 300);
         });
-        String words = "What would lead to more (looked at when all of the call would be done) has no room";
         holds(TERMS, words, x -> {
             full(x);
             x.destroy(4);
@@ -1180,16 +1178,15 @@ final class PoolSentences extends Sentences {
         holds(TERMS, words, x -> {
             full(x);
             x.destroy(4);
-            x.write(1, 4, 1680, 9, 1);
+            x.write(1, 4, 1679, 0x0909, 2);
             x.snapshot(1);
             x.send(2, 3);
             writeTwice(x, 1, 0, 49);
-            x.write(1, 4, 1619, 1, 1);
             due("400", x.held(0, false), 400);
-            due("none go, one comes", x.receive(2), -4);
+            due("one goes, two come", x.receive(2), -4);
             x.cut(3, 4, 1620);
             due("399", x.held(0, false), 399);
-            due("one comes", x.receive(2), 1);
+            due("one goes, two come", x.receive(2), 2);
             due("400", x.held(0, false), 400);
         });
         holds(TERMS, words, x -> {

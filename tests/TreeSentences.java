@@ -219,6 +219,23 @@ final class TreeSentences extends Sentences {
             due("BLOCKS", x.held(2, false), 2);
             due("oddities", x.oddities(), 0);
         });
+        holds(TERMS, words, x -> {
+            manyNodes(x);
+            x.write(1, 36, 0, 1, 1);
+            x.snapshot(1);
+            x.write(1, 36, 0, 2, 1);
+            x.snapshot(1);
+            x.send(2, 3);
+            x.clone(2);
+            x.write(2, 36, 0, 1, 1);
+            for (int i = 0; i < 197; i++) {
+                x.write(1, 6 + i / 18, i % 18 * 120 + 59, 3, 2);
+            }
+            x.write(1, 17, 0, 3, 1);
+            due("400", x.held(0, false), 400);
+            due("one goes, one comes", x.receive(2), 1);
+            due("400", x.held(0, false), 400);
+        });
     }
 
     private static void makeRefused() {
