@@ -8,10 +8,12 @@ import java.nio.file.Path;
 import java.util.ArrayList;
 import java.util.HashSet;
 import java.util.List;
+import java.util.Map;
 import java.util.Set;
+import java.util.TreeMap;
 import java.util.TreeSet;
 
-/** Some of the rules of LANGUAGE.md that can be looked up in the program's text and its classes. */
+/** Those rules of LANGUAGE.md that can be looked up in the program's text and its compiled classes. */
 public final class LanguageTest {
     private static final String[] FACE = {"make iiii", "step i", "makeLink iiib", "walk iib", "linked iii",
         "find iii", "write iiili", "read iii", "cut iii", "link iiii", "unlink iii", "rename iiiii", "about iii",
@@ -24,6 +26,12 @@ public final class LanguageTest {
         "package", "instanceof", "goto", "native", "volatile", "transient", "strictfp", "var", "System.out",
         "->", "::", "hashCode", "toString", "?>"};
     private static final Set<String> LIBRARY = Set.of("Math.min", "Math.max", "System.arraycopy");
+    private static final Set<String> CALLED = Set.of("java.lang.Math.min(II)I", "java.lang.Math.max(II)I",
+        "java.lang.System.arraycopy(Ljava/lang/Object;ILjava/lang/Object;II)V", "java.lang.String.length()I",
+        "java.lang.String.charAt(I)C", "java.lang.Object.<init>()V",
+        // This is how a switch on an enum is compiled.
+        "PoolHouse$Call.ordinal()I");
+    private static final int MOST_DEEP = 8;
     private static int wrong;
 
     public static void main(String[] args) throws IOException {
@@ -31,6 +39,7 @@ public final class LanguageTest {
         words(code);
         depth(code);
         members();
+        calls();
         System.out.println("LanguageTest: " + wrong + " rules broken");
         System.exit(wrong == 0 ? 0 : 1);
     }
@@ -120,6 +129,55 @@ public final class LanguageTest {
         for (Constructor<?> c : PoolHouse.class.getDeclaredConstructors()) {
             holds(Modifier.isPublic(c.getModifiers()) && c.getParameterCount() == 1, "the constructor " + c);
         }
+    }
+
+    /** What calls what: the library's own few, none that comes back to itself, none too deep, none that makes objects. */
+    private static void calls() throws IOException {
+        Map<String, Set<String>> calls = new TreeMap<>();
+        List<Class<?>> all = new ArrayList<>(List.of(PoolHouse.class.getDeclaredClasses()));
+        all.add(PoolHouse.class);
+        for (Class<?> c : all) {
+            if (c.isEnum()) {
+                holds(c.getDeclaredMethods().length == 3, c + " has no methods but values(), valueOf() and its array");
+                continue;
+            }
+            ClassFile file = new ClassFile(c);
+            calls.putAll(file.calls);
+            holds(file.throwers.isEmpty(), "thrown or caught in " + file.throwers);
+            for (String maker : file.makers) {
+                holds(maker.contains(".<init>("), "an object made in " + maker);
+            }
+        }
+        for (Map.Entry<String, Set<String>> e : calls.entrySet()) {
+            for (String called : e.getValue()) {
+                boolean isValues = e.getKey().endsWith(".<clinit>()V") && called.contains(".values()");
+                holds(calls.containsKey(called) || CALLED.contains(called) || isValues,
+                    called + " in " + e.getKey());
+            }
+        }
+        Map<String, Integer> depths = new TreeMap<>();
+        for (String method : calls.keySet()) {
+            int deep = deep(method, calls, depths);
+            holds(deep <= MOST_DEEP, method + " goes " + deep + " deep");
+        }
+        holds(depths.size() > 100, "only " + depths.size() + " methods");
+    }
+
+    private static int deep(String method, Map<String, Set<String>> calls, Map<String, Integer> depths) {
+        Integer known = depths.get(method);
+        if (known != null) {
+            holds(known > 0, method + " comes back to itself");
+            return known;
+        }
+        depths.put(method, 0);
+        int most = 0;
+        for (String called : calls.get(method)) {
+            if (calls.containsKey(called)) {
+                most = Math.max(most, deep(called, calls, depths));
+            }
+        }
+        depths.put(method, most + 1);
+        return most + 1;
     }
 
     private static void fields(Class<?> c) {

@@ -4,38 +4,75 @@ import java.lang.reflect.Modifier;
 import java.util.ArrayList;
 import java.util.Arrays;
 import java.util.Comparator;
+import java.util.HashMap;
 import java.util.List;
+import java.util.Map;
 import java.util.Random;
 
-/** Runs of drawn calls, each asked of the program and of the Model; the seeds are fixed. */
+/**
+ * Runs of drawn calls, each asked of the program and of the Model; the seeds are fixed. No object is asked more than
+ * 512 times: what there is at a run's end is asked of more objects, each after the same calls.
+ */
 public final class ModelTest {
+    private static final int MOST_CALLS = 512;
+    private static final int MOST_DRAWN = 400;
     private static final List<Method> FACE = new ArrayList<>();
+    private static final Map<String, Method> OF_POOL = new HashMap<>();
+    private static final Map<String, Method> OF_MODEL = new HashMap<>();
     private static final long[] EDGES = {Integer.MIN_VALUE, Integer.MAX_VALUE, -1, 0, 2160, 400, 1000000, 1000001};
+
+    /** A call, and what the Model answered. */
+    private static final class Asked {
+        final String name;
+        final Object[] given;
+        final long due;
+
+        Asked(String name, Object[] given, long due) {
+            this.name = name;
+            this.given = given;
+            this.due = due;
+        }
+
+        @Override
+        public String toString() {
+            return name + Arrays.toString(given) + " = " + due;
+        }
+    }
 
     private final Random random;
     private final PoolHouse pool;
     private final Model model;
+    private final int disks;
     private final int run;
     private final int theme;
     private int drawnFor = 1;
     private int drawnNode = 1;
-    private final List<String> log = new ArrayList<>();
+    private final List<Asked> calls = new ArrayList<>();
+    private final List<Asked> looks = new ArrayList<>();
+    private final List<String> scripts = new ArrayList<>();
     private boolean failed;
 
     private ModelTest(int run) {
         this.run = run;
         random = new Random(run);
         theme = run % 6;
-        int disks = random.nextInt(10);
+        disks = random.nextInt(10);
         pool = new PoolHouse(disks);
         model = new Model(disks);
     }
 
     public static void main(String[] args) {
-        int runs = args.length > 0 ? Integer.parseInt(args[0]) : 400;
+        int runs = args.length > 0 ? Integer.parseInt(args[0]) : 1500;
         for (Method m : PoolHouse.class.getDeclaredMethods()) {
             if (Modifier.isPublic(m.getModifiers())) {
                 FACE.add(m);
+                OF_POOL.put(m.getName(), m);
+            }
+        }
+        for (Method m : Model.class.getDeclaredMethods()) {
+            Method same = OF_POOL.get(m.getName());
+            if (same != null && Arrays.equals(same.getParameterTypes(), m.getParameterTypes())) {
+                OF_MODEL.put(m.getName(), m);
             }
         }
         FACE.sort(Comparator.comparing(Method::getName));
@@ -53,17 +90,24 @@ public final class ModelTest {
         if (theme == 5) {
             fill();
         }
-        for (int i = 0; i < 512 && !failed; i++) {
+        for (int i = 0; theme == 0 && i < 22; i++) {
+            ask("make", 1, 1, 10 + i, i < 2 ? 2 : 1);
+        }
+        for (int i = 0; i < MOST_CALLS && calls.size() < MOST_DRAWN && !failed; i++) {
             if (theme == 4 && i % 8 == 0) {
                 script();
             }
             if (theme >= 4 && i % 40 == 39) {
                 ferry();
             }
+            if (theme == 2 && i % 40 == 20) {
+                retreat();
+            }
             Method m = drawn();
             ask(m.getName(), numbers(m));
         }
         look();
+        askAgain();
     }
 
     /** A DATASET that has a SNAPSHOT's TREE, or nearly, receives what leads from there to another one. */
@@ -75,6 +119,7 @@ public final class ModelTest {
         }
         int from = all.get(random.nextInt(all.size()));
         int to = all.get(random.nextInt(all.size()));
+        Model.T goal = model.now.snapshots.get(to).tree.copy();
         ask("send", from, to);
         int clone = model.datasetsMade + 1;
         if (random.nextInt(3) > 0) {
@@ -82,11 +127,15 @@ public final class ModelTest {
         }
         ask("clone", from);
         if (random.nextInt(5) == 0) {
-            ask("quota", clone, 150 + random.nextInt(50));
+            ask("quota", clone, goal.used().blocks().size() - random.nextInt(2));
         }
         if (random.nextInt(3) == 0) {
             ask("open", clone, 2);
             ask("unlink", clone, 1, 10);
+        }
+        if (model.now.datasets.containsKey(clone)) {
+            likenHandled(clone, goal);
+            renewSame(clone);
         }
         ask("receive", clone);
         ask("receive", random.nextInt(3) + 1);
@@ -95,6 +144,55 @@ public final class ModelTest {
         ask("differs", clone, -to, 0);
         if (random.nextInt(3) > 0) {
             ask("destroy", clone);
+        }
+    }
+
+    /** A FILE that a HANDLE alone keeps, with the bytes that the NODE has in the TREE to which the STREAM leads. */
+    private void likenHandled(int dataset, Model.T goal) {
+        int made = (int) ask("make", dataset, 1, 999, 1);
+        Model.N like = goal.nodes.get(made);
+        if (like == null || like.kind != 1 || like.length < 60) {
+            ask("unlink", dataset, 1, 999);
+            return;
+        }
+        ask("open", dataset, made);
+        for (int at = 0; at < 120 && at < like.length; at++) {
+            if (like.bytes()[at] != 0) {
+                ask("write", dataset, made, at, (long) like.bytes()[at], 1);
+            }
+        }
+        ask("unlink", dataset, 1, 999);
+    }
+
+    /** BLOCKS of a DATASET become its own, with the bytes that they have. */
+    private void renewSame(int dataset) {
+        for (int i = 0; i < 4; i++) {
+            int node = 2 + random.nextInt(6);
+            int at = 60 * random.nextInt(36);
+            Model.N file = model.now.datasets.get(dataset).tree.nodes.get(node);
+            if (file != null && file.kind == 1 && at < file.length) {
+                ask("write", dataset, node, at, (long) file.bytes()[at], 1);
+            }
+        }
+    }
+
+    /** A SNAPSHOT with a FILE that a HANDLE alone keeps is gone back to, with just so much QUOTA, or less. */
+    private void retreat() {
+        ask("as", 0);
+        int opened = (int) ask("open", 1, 2);
+        int snapshot = 0;
+        if (ask("unlink", 1, 1, 10) > 0) {
+            snapshot = (int) ask("snapshot", 1);
+        }
+        if (opened > 0) {
+            ask("close", opened);
+        }
+        if (snapshot > 0) {
+            int blocks = model.now.snapshots.get(snapshot).tree.used().blocks().size();
+            ask("quota", 1, blocks);
+            ask("back", 1, snapshot);
+            ask("quota", 1, 400);
+            ask("destroy", -snapshot);
         }
     }
 
@@ -129,9 +227,11 @@ public final class ModelTest {
             case "make": case "write":
                 return theme == 5 && name.equals("make") ? 4 : 20;
             case "rename": case "unlink":
-                return theme == 0 ? 2 : 10;
+                return theme == 0 ? 4 : 10;
             case "link": case "open": case "about":
                 return 10;
+            case "attribute":
+                return theme == 2 ? 20 : 4;
             case "lock":
                 return theme == 3 ? 20 : 6;
             case "snapshot": case "clone": case "send": case "receive": case "back":
@@ -175,7 +275,7 @@ public final class ModelTest {
             case "read": return "t FILE at".split(" ");
             case "cut": return "T FILE at".split(" ");
             case "link": return "T FILE DIR name".split(" ");
-            case "rename": return "T DIR name DIR name".split(" ");
+            case "rename": return "T DIR name TO name".split(" ");
             case "about": return "t n small".split(" ");
             case "entry": return "t DIR small".split(" ");
             case "key": return "t n small".split(" ");
@@ -225,10 +325,11 @@ public final class ModelTest {
             case "n": return node(0);
             case "FILE": return node(1);
             case "DIR": return node(2);
+            case "TO": return random.nextInt(3) == 0 ? drawnNode : node(2);
             case "LINK": return node(3);
             case "name": return name();
             case "step": return random.nextInt(20) == 0 ? -1 : random.nextInt(4) == 0 ? 0 : name();
-            case "two": return 1 + random.nextInt(2);
+            case "two": return theme == 0 && random.nextInt(8) > 0 ? 1 : 1 + random.nextInt(2);
             case "small": return random.nextInt(9) - 1;
             case "at": return at();
             case "v": return random.nextInt(3) == 0 ? random.nextInt(2) : random.nextLong();
@@ -316,11 +417,11 @@ public final class ModelTest {
             ask("feed", w[0], w[1], w[2], w[3], w[4]);
         }
         ask("end", before + text.length());
-        log.add(text.toString());
+        scripts.add(text.toString());
         ask("run");
         ask("line");
-        for (int i = 0; i <= model.outText.length(); i++) {
-            ask("out", i);
+        for (int i = 0; i < 4; i++) {
+            ask("out", random.nextInt(model.outText.length() + 1));
         }
     }
 
@@ -338,59 +439,106 @@ public final class ModelTest {
         }
     }
 
-    private void ask(String name, Object... given) {
-        long due = call(model, Model.class, name, given);
-        long got = call(pool, PoolHouse.class, name, given);
-        log.add(name + Arrays.toString(given) + " = " + due);
-        if (due != got) {
-            failed = true;
-            System.out.println("run " + run + ": " + name + Arrays.toString(given) + " answered " + got
-                + ", due is " + due);
-            for (String s : log.subList(Math.max(0, log.size() - 30), log.size())) {
-                System.out.println("    " + s);
+    private long ask(String name, Object... given) {
+        Asked asked = new Asked(name, given, answer(OF_MODEL, model, name, given));
+        calls.add(asked);
+        compare(asked, pool, calls.size() - 1);
+        return asked.due;
+    }
+
+    /** Asks something that changes nothing, of which there is more than one object may be asked. */
+    private long lookAt(String name, Object... given) {
+        long due = answer(OF_MODEL, model, name, given);
+        looks.add(new Asked(name, given, due));
+        return due;
+    }
+
+    private void askAgain() {
+        int each = MOST_CALLS - calls.size();
+        if (each < 1) {
+            throw new IllegalStateException("run " + run + " has " + calls.size() + " calls");
+        }
+        for (int from = 0; from < looks.size() && !failed; from += each) {
+            PoolHouse again = new PoolHouse(disks);
+            for (int i = 0; i < calls.size() && !failed; i++) {
+                compare(calls.get(i), again, i);
+            }
+            for (int i = from; i < Math.min(looks.size(), from + each) && !failed; i++) {
+                compare(looks.get(i), again, calls.size() - 1);
             }
         }
     }
 
-    private static long call(Object on, Class<?> of, String name, Object[] given) {
-        for (Method m : of.getDeclaredMethods()) {
-            if (m.getName().equals(name) && m.getParameterCount() == given.length) {
-                try {
-                    return ((Number) m.invoke(on, given)).longValue();
-                } catch (InvocationTargetException | IllegalAccessException e) {
-                    throw new IllegalStateException(name + Arrays.toString(given), e);
-                }
-            }
+    private void compare(Asked asked, PoolHouse on, int last) {
+        long got = answer(OF_POOL, on, asked.name, asked.given);
+        if (asked.due == got) {
+            return;
         }
-        throw new IllegalStateException(name);
+        failed = true;
+        System.out.println("run " + run + ": " + asked.name + Arrays.toString(asked.given) + " answered " + got
+            + ", due is " + asked.due + "; before that:");
+        for (Asked a : calls.subList(Math.max(0, last - 30), last + 1)) {
+            System.out.println("    " + a);
+        }
+        for (String text : scripts) {
+            System.out.println("    a script of the run: " + text.replace('\n', '|'));
+        }
     }
 
-    /** Asks for all that there is at the end of a run. */
+    private static long answer(Map<String, Method> face, Object on, String name, Object[] given) {
+        try {
+            return ((Number) face.get(name).invoke(on, given)).longValue();
+        } catch (InvocationTargetException | IllegalAccessException e) {
+            throw new IllegalStateException(name + Arrays.toString(given), e);
+        }
+    }
+
+    /** Looks at all that there is at the end of a run. */
     private void look() {
-        ask("oddities");
         ask("as", 0);
+        lookAt("oddities");
+        for (int i = 0; i <= model.outText.length(); i++) {
+            lookAt("out", i);
+        }
+        for (int i = 1; i <= 8; i++) {
+            lookAt("handle", i, 0);
+            lookAt("handle", i, 1);
+            lookAt("disk", i);
+        }
         List<Integer> trees = new ArrayList<>(model.now.datasets.keySet());
         for (int s : model.now.snapshots.keySet()) {
             trees.add(-s);
         }
         for (int t : trees) {
             for (int i = 0; i < 4; i++) {
-                ask("told", t, i);
+                lookAt("told", t, i);
             }
-            ask("held", t, true);
-            ask("held", t, false);
-            for (int n = 1; n <= 36 && !failed; n++) {
-                for (int i = 0; i < 8; i++) {
-                    ask("about", t, n, i);
-                }
-                for (int k = 0; k < model.about(t, n, 1) && model.about(t, n, 0) == 2; k++) {
-                    ask("entry", t, n, k);
-                    ask("find", t, n, model.entry(t, n, k));
-                }
-                for (int at = 0; model.about(t, n, 0) == 1 && at <= model.about(t, n, 1) && !failed; at += 7) {
-                    ask("read", t, n, at);
-                }
+            lookAt("held", t, true);
+            lookAt("held", t, false);
+            for (int n = 1; n <= 36; n++) {
+                lookAtNode(t, n);
             }
+        }
+    }
+
+    private void lookAtNode(int t, int n) {
+        long kind = lookAt("about", t, n, 0);
+        for (int what = 1; kind > 0 && what < 8; what++) {
+            lookAt("about", t, n, what);
+        }
+        int length = model.about(t, n, 1);
+        for (int k = 0; kind == 2 && k <= length; k++) {
+            lookAt("find", t, n, (int) lookAt("entry", t, n, k));
+        }
+        for (int k = -1; kind == 3 && k <= length; k++) {
+            lookAt("linked", t, n, k);
+        }
+        for (int i = 0; kind == 1 && length > 0 && i < 20; i++) {
+            lookAt("read", t, n, random.nextInt(length));
+            lookAt("read", t, n, random.nextInt(length) / 60 * 60 + 59);
+        }
+        for (int k = 0; k < model.about(t, n, 7); k++) {
+            lookAt("attributeOf", t, n, (int) lookAt("key", t, n, k));
         }
     }
 }

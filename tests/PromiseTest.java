@@ -1,4 +1,4 @@
-/** For each promise of the document: ordinary inputs, the edges that it names, and wrong inputs. */
+/** For each promise of the document: ordinary inputs, its edges, and wrong inputs; no object has over 512 calls. */
 public final class PromiseTest {
     private static int wrong;
     private static int asked;
@@ -1612,23 +1612,23 @@ public final class PromiseTest {
             + "destroy -1\n", 17, -2, "1\n0\n2\n2\n2\n1\n2\n1\n0\n1\n400\n1\n-2\n1\n0\n0\n0\n");
         script(x, "commit\nsync\ncrash 0\nspoil 1 1 1\nlose 1\nbring 1 1\ndisk 1\nscrub 1\nscrub 0\noddities\n",
             10, -2, "0\n0\n0\n1\n1\n1\n1\n0\n1\n0\n");
+        longScript(pool(50), "as 0\n", 1600, "0\n");
         PoolHouse y = pool(50);
-        StringBuilder text = new StringBuilder();
-        StringBuilder out = new StringBuilder();
-        for (int i = 0; i < 1600; i++) {
-            text.append("as 0").append(i < 1599 ? "\n" : "");
-            out.append("0\n");
+        y.attribute(1, 1, 1, Long.MIN_VALUE, true);
+        longScript(y, "attributeOf 1 1 1\n", 444, Long.MIN_VALUE + "\n");
+    }
+
+    /** One line so many times: how many were done, and what OUT ends with. */
+    private static void longScript(PoolHouse x, String line, int count, String answer) {
+        feed(x, line.repeat(count));
+        due("run", x.run(), count);
+        due("line", x.line(), -2);
+        int length = answer.length() * count;
+        for (int i = 0; i < answer.length(); i++) {
+            due("the first answer", x.out(i), answer.charAt(i));
+            due("the last answer", x.out(length - answer.length() + i), answer.charAt(i));
         }
-        script(y, text.toString(), 1600, -2, out.toString());
-        PoolHouse z = pool(50);
-        z.attribute(1, 1, 1, Long.MIN_VALUE, true);
-        text.setLength(0);
-        out.setLength(0);
-        for (int i = 0; i < 444; i++) {
-            text.append("attributeOf 1 1 1\n");
-            out.append(Long.MIN_VALUE).append('\n');
-        }
-        script(z, text.toString(), 444, -2, out.toString());
+        due("behind the last", x.out(length), -2);
     }
 
     private static void wrongWords() {
